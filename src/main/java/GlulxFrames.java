@@ -646,9 +646,9 @@ public final class GlulxFrames {
         private static final int ARGUMENTS_PUSHED = 0xC0;
         private static final int ARGUMENTS_IN_LOCALS = 0xC1;
 
-        private int head = 0;
-        private int acceleration = 0;
-        private int pairs = 0;
+        int head = 0;
+        int acceleration = 0;
+        int pairs = 0;
         private final int[] widths = new int[MOST_PAIRS];
         private final int[] counts = new int[MOST_PAIRS];
 

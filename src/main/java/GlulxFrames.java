@@ -566,13 +566,14 @@ public final class GlulxFrames {
     private static final class Row {
         private static final int LEAST = 64;
         private static final int MOST = 1024;
+        private static final int UNIT = 4;
 
         private final byte[] bytes;
         private int end = 0;
 
         Row(int asked) {
             int nearest = Math.max(LEAST, Math.min(MOST, asked));
-            bytes = new byte[nearest - nearest % 4];
+            bytes = new byte[nearest - nearest % UNIT];
         }
 
         int size() {

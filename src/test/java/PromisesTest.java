@@ -141,6 +141,24 @@ public final class PromisesTest {
         due("told(11, 2)", x.told(11, 2), 1);
     }
 
+    private static void promise2Anew() {
+        GlulxFrames x = with(128, 1, PUSHED, 1, 5, 4, 3, 2, 7);
+        add(x, 1, IN_LOCALS, 2, 2);
+        due("local(1, 1)", x.local(1, 1), 2);
+        due("local(1, 2), of pairs that are no more", x.local(1, 2), BAD);
+        due("told(1, 3)", x.told(1, 3), 16);
+        due("call", x.call(1, 0, 0, 0, 0), 16);
+        bytes(x, 16, 0, 0, 0, 16, 0, 0, 0, 12, 2, 2, 0, 0, 0, 0, 0, 0);
+        pushAll(x, 1, 2, 3, 4);
+        due("call", x.call(1, 4, 0, 0, 0), 48);
+        bytes(x, 48, 0, 0, 0, 16, 0, 0, 0, 12, 2, 2, 0, 0, 0, 4, 0, 3);
+        values(x);
+        due("without pairs", x.function(1, IN_LOCALS), 1);
+        due("local(1, 0), of pairs that are no more", x.local(1, 0), BAD);
+        due("call", x.call(1, 0, 0, 0, 0), 80);
+        bytes(x, 80, 0, 0, 0, 12, 0, 0, 0, 12, 0, 0, 0, 0, NONE);
+    }
+
     private static void promise3() {
         GlulxFrames x = new GlulxFrames(128);
         due("format(0, 1, 1)", x.format(0, 1, 1), 1);
@@ -711,9 +729,12 @@ public final class PromisesTest {
         String before = seen(x);
         due("of one", x.swap(), UNDER);
         unchanged(x, before, "UNDER");
-        pushAll(x, 2, 3);
+        pushAll(x, 2);
         due("swap", x.swap(), 1);
-        values(x, 1, 3, 2);
+        values(x, 2, 1);
+        pushAll(x, 3);
+        due("swap", x.swap(), 1);
+        values(x, 2, 3, 1);
         due("caught", x.caught(3, 0, 0), 72);
         due("not across a token", x.swap(), UNDER);
     }
@@ -840,6 +861,7 @@ public final class PromisesTest {
     public static void main(String[] args) {
         run("promise 1", PromisesTest::promise1);
         run("promise 2", PromisesTest::promise2);
+        run("promise 2, anew", PromisesTest::promise2Anew);
         run("promise 3", PromisesTest::promise3);
         run("promise 4", PromisesTest::promise4);
         run("promise 5", PromisesTest::promise5);

@@ -399,11 +399,9 @@ public final class GlulxFrames {
     }
 
     public int pop() {
-        if (fp == NONE) {
-            return FAULT_NO_FRAME;
-        }
-        if (valueCount() < 1) {
-            return FAULT_UNDER;
+        int fault = faultOfLast(1);
+        if (fault != 0) {
+            return fault;
         }
         latestPopped = valueFromLast(0);
         row.cutTo(row.end() - VALUE_BYTES);
@@ -426,14 +424,9 @@ public final class GlulxFrames {
     }
 
     public int copy(int n) {
-        if (n < 0) {
-            return BAD;
-        }
-        if (fp == NONE) {
-            return FAULT_NO_FRAME;
-        }
-        if (n > valueCount()) {
-            return FAULT_UNDER;
+        int fault = faultOfLast(n);
+        if (fault != 0) {
+            return fault;
         }
         if (!row.reaches(row.end() + VALUE_BYTES * n)) {
             return FAULT_FULL;
@@ -446,14 +439,9 @@ public final class GlulxFrames {
     }
 
     public int roll(int n, int by) {
-        if (n < 0) {
-            return BAD;
-        }
-        if (fp == NONE) {
-            return FAULT_NO_FRAME;
-        }
-        if (n > valueCount()) {
-            return FAULT_UNDER;
+        int fault = faultOfLast(n);
+        if (fault != 0) {
+            return fault;
         }
         if (n > 0) {
             rollLast(n, Math.floorMod(by, n));
@@ -462,14 +450,23 @@ public final class GlulxFrames {
     }
 
     public int swap() {
-        if (fp == NONE) {
-            return FAULT_NO_FRAME;
-        }
-        if (valueCount() < 2) {
-            return FAULT_UNDER;
+        int fault = faultOfLast(2);
+        if (fault != 0) {
+            return fault;
         }
         rollLast(2, 1);
         return 1;
+    }
+
+    /** Of an act on the n last values; 0: there is none. */
+    private int faultOfLast(int n) {
+        if (n < 0) {
+            return BAD;
+        }
+        if (fp == NONE) {
+            return FAULT_NO_FRAME;
+        }
+        return n > valueCount() ? FAULT_UNDER : 0;
     }
 
     /** Up is towards the end, where those that go over it come in again at the bottom. */

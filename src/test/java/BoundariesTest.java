@@ -310,6 +310,19 @@ public final class BoundariesTest {
         for (int i = 0; i < bytes.length; i++) due(bytes[i], x.byteAt(16 + i));
     }
 
+    /** "a count (1 .. 255)", "numbers of two or four bytes stand highest byte first": the most that a pair's byte tells. */
+    static void terms_aPairOf255() {
+        Kept x = new Kept(1024);
+        x.function(0, 0xC1);
+        due(1, x.format(0, 2, 255));
+        due(2, x.format(0, 1, 255));
+        due(16, x.call(0, 0, 0, 0, 0));
+        int[] bytes = {0, 0, 3, 16, 0, 0, 0, 16, 2, 255, 1, 255, 0, 0, 0, 0};
+        due(784, x.told(0, 3));
+        for (int i = 0; i < bytes.length; i++) due(bytes[i], x.byteAt(16 + i));
+        due(16 + 784, x.count(0));
+    }
+
     /** "each at the next place that is a multiple of its WIDTH": at once if it is one, else behind 0s. */
     static void terms_localsAtTheNextMultiple() {
         for (int ones = 1; ones <= 5; ones++) {
@@ -489,6 +502,24 @@ public final class BoundariesTest {
         for (int pairs = 1; pairs <= 6; pairs++) due(pairs, x.format(5, 1, 1));
         due(BAD, x.format(5, 1, 1));
         due(6, x.told(5, 2));
+    }
+
+    /** "its FORMAT without pairs": those that were there before get no arguments. */
+    static void promise2_argumentsWithoutPairs() {
+        Kept x = inside(128, -3, -2, -1);
+        due(2, x.format(FOUR, 4, 2));
+        due(1, x.function(FOUR, 0xC1));
+        due(60, x.call(FOUR, 3, 0, 0, 0));
+        due(72, x.count(0));
+        due(0, number(x, 68));
+        due(0, x.count(2));
+        due(16, x.leave(0));
+        for (int i = 3; i >= 1; i--) x.push(-i);
+        due(1, x.format(FOUR, 1, 1));
+        due(60, x.call(FOUR, 3, 0, 0, 0));
+        due(76, x.count(0));
+        due(0x01010000, number(x, 68));
+        due(0xFF000000, number(x, 72));
     }
 
     /** Nothing but HEAD and FORMAT is set anew: what the FUNCTION is ACCELERATED by stays. */
@@ -823,10 +854,13 @@ public final class BoundariesTest {
         taken(1, () -> inside(64, 1, 2, 3, 4), x -> x.call(SUM, 0, 3, 0, 0));
     }
 
-    /** "as many as there are of both": fewer arguments than LOCALS, as many, more. */
+    /** "as many as there are of both": fewer arguments than LOCALS, as many, more; never those of an earlier call. */
     static void promise7_asManyAsOfBoth() {
         for (int n = 0; n <= 6; n++) {
-            Kept x = inside(128, 6, 5, 4, 3, 2, 1);
+            Kept x = inside(128, 16, 15, 14, 13, 12, 11);
+            due(60, x.call(FOUR, 6, 0, 0, 0));
+            due(16, x.leave(0));
+            for (int v = 6; v >= 1; v--) x.push(v);
             due(16 + 28 + 4 * (6 - n) + 16, x.call(FOUR, n, 0, 0, 0));
             for (int k = 0; k < 4; k++) loaded(x, 4 * k, 4, k < n ? k + 1 : 0);
             due(0, x.count(2));
@@ -870,12 +904,15 @@ public final class BoundariesTest {
         }
     }
 
+    /** With a value below the arguments, and one behind them that has gone: neither is of account. */
     private static void given(int wanted, int f, int... arguments) {
-        Kept x = inside(128);
+        Kept x = inside(128, 500000);
         for (int i = arguments.length - 1; i >= 0; i--) x.push(arguments[i]);
+        x.push(7000000);
+        x.pop();
         due(1, x.call(f, arguments.length, 1, 5, 0));
         due(wanted, x.cell(5));
-        due(0, x.count(2));
+        values(x, 500000);
     }
 
     /** "1: the sum of its arguments": of none it is 0, and it goes round like an int. */

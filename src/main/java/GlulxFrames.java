@@ -359,7 +359,7 @@ public final class GlulxFrames {
     // ---- live tokens
 
     private void addToken(int token) {
-        if (tokenCount < tokens.length) {
+        if (tokenCount >= 0 && tokenCount < tokens.length) {
             tokens[tokenCount] = token;
             tokenCount++;
         }
